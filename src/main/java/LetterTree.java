@@ -853,9 +853,11 @@ public final class LetterTree {
 
         int settleAll() {
             int sinks = 0;
-            for (int i = 0; i < MOST_TURNS && lettersIn(root, 0) > 0; i++) {
+            int sunk = 1;
+            for (int i = 0; i < MOST_TURNS && sunk > 0 && lettersIn(root, 0) > 0; i++) {
                 root = root.opened();
-                sinks += settleBelow(root, 0);
+                sunk = settleBelow(root, 0);
+                sinks += sunk;
                 partRoot();
             }
             return sinks;
@@ -877,16 +879,25 @@ public final class LetterTree {
             }
             int at = 0;
             for (int i = 0; i < MOST_TURNS && at < page.kids.size() && !page.isTooBig(); i++) {
-                if (lettersIn(page.kids.get(at), 0) == 0) {
+                int sunk = settleKid(page, at, depth);
+                sinks += sunk;
+                // The parts of a KID that was PARTED lie at its place and may have LETTERS still.
+                if (sunk == 0) {
                     at++;
-                } else {
-                    Page kid = page.kids.get(at).opened();
-                    page.kids.set(at, kid);
-                    sinks += settleBelow(kid, depth + 1);
-                    page.partKid(at);
                 }
             }
             return sinks;
+        }
+
+        private static int settleKid(Page page, int at, int depth) {
+            if (at >= page.kids.size() || lettersIn(page.kids.get(at), 0) == 0) {
+                return 0;
+            }
+            Page kid = page.kids.get(at).opened();
+            page.kids.set(at, kid);
+            int sunk = settleBelow(kid, depth + 1);
+            page.partKid(at);
+            return sunk;
         }
 
         int levels() {

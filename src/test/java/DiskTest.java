@@ -105,6 +105,15 @@ public final class DiskTest {
         CHECKS.due("in a leaf", x.look(2, 12), 1);
         CHECKS.due("its byte", x.byteAt(0), 3);
         CHECKS.due("an empty row", x.look(1, 70), 0);
+        x.put(80);
+        x.feed(0x0102, 2);
+        x.swap(80, 1);
+        x.swap(81, 0);
+        CHECKS.due("picture", x.picture(), 3);
+        CHECKS.due("a swap that does nothing", x.look(3, 80), 0);
+        CHECKS.due("a swap of no key", x.look(3, 81), NONE);
+        x.release(3);
+        x.sweep(80, 80);
         CHECKS.due("no such picture", x.look(3, 12), BAD);
         CHECKS.due("nor this", x.look(0, 12), BAD);
         CHECKS.due("pictured", x.pictured(0), 1);
@@ -153,6 +162,12 @@ public final class DiskTest {
         x.rise();
         CHECKS.due("a head had it", x.pictured(0), 2);
         CHECKS.due("look", x.look(2, 3), 0);
+        x.put(4);
+        x.bend(0);
+        x.bend(1);
+        CHECKS.due("a picture has its page without heads", x.free(), 999);
+        x.release(2);
+        CHECKS.due("now none has it", x.free(), 1000);
     }
 
     private static void fallAtAPage() {

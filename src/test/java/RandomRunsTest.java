@@ -81,7 +81,7 @@ public final class RandomRunsTest {
 
     private void feedSome() {
         long w = dice.nextInt(3) == 0 ? dice.nextLong() : dice.nextInt(2);
-        int n = dice.nextInt(3) == 0 ? small(9) : 1;
+        int n = dice.nextInt(3) == 0 ? small(9) : dice.nextInt(3) == 0 ? 8 : 1;
         due("feed(" + w + ", " + n + ")", tree.feed(w, n), plain.feed(w, n));
         if (dice.nextInt(4) == 0) {
             int keep = small(21);
@@ -169,7 +169,9 @@ public final class RandomRunsTest {
                 due("sync()", tree.sync(), plain.sync());
                 break;
             case 2:
-                due("picture()", tree.picture(), plain.picture());
+                for (int turn = dice.nextInt(9) == 0 ? 9 : 1; turn > 0; turn--) {
+                    due("picture()", tree.picture(), plain.picture());
+                }
                 break;
             case 3:
                 int gone = 1 + small(9);

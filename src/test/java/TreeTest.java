@@ -12,6 +12,7 @@ public final class TreeTest {
         partedInThree();
         settleCounts();
         settlePartsUpward();
+        settlePartsAheadOfTheNextSink();
         rootIsPartedBehindTheWrite();
         innerSweepIsCutAgain();
         changedMarks();
@@ -221,6 +222,18 @@ public final class TreeTest {
         page(x, 5, 1, 3, 0);
         CHECKS.due("pages", x.pages(), 9);
         border(x, 0, 1, 102);
+    }
+
+    private static void settlePartsAheadOfTheNextSink() {
+        LetterTree x = fiveLeaves();
+        puts(x, 11, 14);
+        puts(x, 305, 308);
+        page(x, 0, 1, 5, 8);
+        CHECKS.due("two sinks", x.settle(), 2);
+        // Six KIDS are PARTED in 3 and 3; then the second part's last LEAF is PARTED.
+        page(x, 0, 1, 2, 0);
+        page(x, 1, 1, 3, 0);
+        page(x, 5, 1, 4, 0);
     }
 
     private static void rootIsPartedBehindTheWrite() {
