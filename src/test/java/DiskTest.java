@@ -1,12 +1,10 @@
-import java.lang.reflect.Field;
-
 /** Promises 25 to 37: sync, pictures, free, fall, crash, rise, disk, bend, writes, number. */
 public final class DiskTest {
     private static final Checks CHECKS = new Checks();
     private static final int NONE = LetterTree.NONE, BAD = LetterTree.BAD, FULL = LetterTree.FULL;
     private static final int DOWN = LetterTree.DOWN, FELL = LetterTree.FELL;
 
-    public static void main(String[] args) throws ReflectiveOperationException {
+    public static void main(String[] args) {
         syncTakesTheLeastPlaces();
         headsTell();
         picturesKeepTheirRows();
@@ -20,7 +18,6 @@ public final class DiskTest {
         greatestPictureOfBothHeads();
         riseTakesTheGreatestGeneration();
         bendFreesPlaces();
-        placesRunOut();
         wrongNumbers();
         downRefuses();
         CHECKS.end();
@@ -335,48 +332,6 @@ public final class DiskTest {
         CHECKS.due("bend(0)", x.bend(0), 1);
         CHECKS.due("bend(0) again", x.bend(0), 0);
         CHECKS.due("head 0 is none", x.disk(0, 3), 0);
-    }
-
-    /** 512 calls can't fill THE DISK: the test sets the NUMBER back to go on writing. */
-    private static void placesRunOut() throws ReflectiveOperationException {
-        LetterTree x = new LetterTree();
-        Field latest = LetterTree.class.getDeclaredField("latest");
-        latest.setAccessible(true);
-        int pictures = 0;
-        int free = 1000;
-        int changed = 0;
-        for (int round = 0; round < 12 && free >= changed; round++) {
-            latest.setInt(x, 0);
-            for (int i = 0; i < 500; i++) {
-                x.put(i * 37 % 503);
-            }
-            x.settle();
-            changed = changedPages(x);
-            free = x.free();
-            int answer = x.picture();
-            CHECKS.due("picture", answer, free >= changed ? ++pictures : FULL);
-        }
-        CHECKS.holds("the disk was full", free < changed);
-        CHECKS.due("sync", x.sync(), FULL);
-        CHECKS.due("nothing was written", x.free(), free);
-        CHECKS.due("all is CHANGED", changedPages(x), changed);
-        CHECKS.due("no picture more", x.pictured(pictures), NONE);
-        CHECKS.due("generation", x.number(1), pictures);
-        x.release(1);
-        x.crash();
-        x.rise();
-        x.release(1);
-        x.sync();
-        x.sync();
-        CHECKS.due("the next number", x.picture(), pictures + 1);
-    }
-
-    private static int changedPages(LetterTree x) {
-        int changed = 0;
-        for (int i = 0; i < x.pages(); i++) {
-            changed += x.page(i, 3) == NONE ? 1 : 0;
-        }
-        return changed;
     }
 
     private static void wrongNumbers() {

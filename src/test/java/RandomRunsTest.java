@@ -16,13 +16,70 @@ public final class RandomRunsTest {
         for (int seed = 0; seed < runs && !test.checks.anyWrong(); seed++) {
             test.oneRun(seed);
         }
+        for (int seed = 0; seed < runs / 60 && !test.checks.anyWrong(); seed++) {
+            test.oneRunOnAFullDisk(seed);
+        }
         test.checks.end();
     }
 
-    private void oneRun(int seed) {
+    private void begin(int seed) {
         dice = new Random(seed);
         tree = new LetterTree();
         plain = new PlainStore();
+        run = "seed " + seed + ": ";
+    }
+
+    /** As FullDisk.made() does, and then what comes. */
+    private void oneRunOnAFullDisk(int seed) {
+        begin(seed);
+        keys = 420;
+        for (long key : FullDisk.keys()) {
+            due("put(" + key + ")", tree.put(key), plain.put(key));
+        }
+        int call = 420;
+        for (; call < 455; call += 3) {
+            due("settle()", tree.settle(), plain.settle());
+            due("picture()", tree.picture(), plain.picture());
+            long last = dice.nextInt(3) == 0 ? key() : Long.MAX_VALUE;
+            long low = Long.MIN_VALUE;
+            due("sweep to " + last, tree.sweep(low, last), plain.sweep(low, last));
+        }
+        for (; call < CALLS && !checks.anyWrong(); call++) {
+            run = "seed " + seed + " on a full disk, call " + call + ": ";
+            fullDiskCall();
+        }
+    }
+
+    private void fullDiskCall() {
+        switch (dice.nextInt(8)) {
+            case 0:
+            case 1:
+                long key = key();
+                due("put(" + key + ")", tree.put(key), plain.put(key));
+                break;
+            case 2:
+                due("settle()", tree.settle(), plain.settle());
+                break;
+            case 3:
+                due("sync()", tree.sync(), plain.sync());
+                break;
+            case 4:
+                due("sweep of all", tree.sweep(Long.MIN_VALUE, Long.MAX_VALUE),
+                        plain.sweep(Long.MIN_VALUE, Long.MAX_VALUE));
+                break;
+            case 5:
+                due("free()", tree.free(), plain.free());
+                break;
+            case 6:
+                pageCall(small(Math.max(1, plain.pages())));
+                break;
+            default:
+                diskCall();
+        }
+    }
+
+    private void oneRun(int seed) {
+        begin(seed);
         keys = new long[] {12, 60, 400, 5000, 0}[seed % 5];
         int style = seed / 5 % 6;
         for (int call = 0; call < CALLS && !checks.anyWrong(); call++) {
