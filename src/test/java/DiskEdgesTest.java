@@ -18,6 +18,7 @@ public final class DiskEdgesTest {
         thereAre12Pictures();
         theGreatestNumberSoFar();
         lookLoadsTheRow();
+        lookActsTheLettersOfThePicture();
         lookIsBadWithoutThePicture();
         releaseTellsHowMany();
         picturedIsRising();
@@ -298,6 +299,41 @@ public final class DiskEdgesTest {
         CHECKS.due("0 bytes", x.look(1, 0), 0);
         CHECKS.due("an empty tape", x.byteAt(0), NONE);
         CHECKS.due("now none is there", x.count(), 0);
+    }
+
+    /** "what a LEAF's ENTRIES and the LETTERS that the PAGES ON THE WAY have for a KEY make" */
+    private static void lookActsTheLettersOfThePicture() {
+        LetterTree x = Grown.threeLevels();
+        x.feed(1, 1);
+        x.put(10);
+        x.drop(11);
+        x.sweep(12, 20);
+        x.feed(0x0203, 2);
+        x.swap(30, 0);
+        x.sink();
+        x.feed(4, 1);
+        x.append(10);
+        x.append(11);
+        x.drop(30);
+        x.put(13);
+        x.sweep(303, Long.MAX_VALUE);
+        x.put(Long.MAX_VALUE);
+        CHECKS.due("letters on two levels", x.letters(), x.page(0, 2) + x.page(1, 2));
+        x.picture();
+        x.put(12);
+        x.sweep(Long.MIN_VALUE, 11);
+        x.settle();
+        x.sync();
+        long[][] rows = {
+            {10, 2}, {11, 0}, {12, NONE}, {13, 0}, {14, NONE}, {20, NONE}, {21, NONE}, {30, NONE},
+            {40, 0}, {302, 0}, {303, NONE}, {304, NONE}, {Long.MAX_VALUE, 0}, {Long.MIN_VALUE, NONE},
+        };
+        for (long[] row : rows) {
+            CHECKS.due("look(1, " + row[0] + ")", x.look(1, row[0]), row[1]);
+        }
+        CHECKS.due("look", x.look(1, 10), 2);
+        CHECKS.due("the PUT of a leaf's page", x.byteAt(0), 1);
+        CHECKS.due("the APPEND of the root", x.byteAt(1), 4);
     }
 
     /** look: "BAD: there is no such PICTURE." */
