@@ -19,6 +19,11 @@ public final class RoomTest {
                 CHECKS.holds("fill " + fill + ", kind " + kind + " made " + all, all < MOST);
             }
         }
+        FullDisk.keys();
+        long before = made();
+        FullDisk.made();
+        long all = made() - before;
+        CHECKS.holds("a full disk made " + all, all < MOST);
         CHECKS.end();
     }
 

@@ -232,7 +232,8 @@ public final class WriteEdgesTest {
         };
         for (long[] sweep : sweeps) {
             LetterTree x = Grown.leaf(6);
-            CHECKS.due("sweep(" + sweep[0] + ", " + sweep[1] + ")", x.sweep(sweep[0], sweep[1]), sweep[2]);
+            String name = "sweep(" + sweep[0] + ", " + sweep[1] + ")";
+            CHECKS.due(name, x.sweep(sweep[0], sweep[1]), sweep[2]);
             CHECKS.due("count", x.count(), 6 - sweep[2]);
             for (long key = 10; key <= 60; key += 10) {
                 boolean in = sweep[0] <= key && key <= sweep[1];
