@@ -391,11 +391,12 @@ public final class LetterTree {
             tape.size = 0;
         }
         latest++;
+        Letter letter = new Letter(kind, latest, key, last, first, row);
         ArrayList<Letter> letters = new ArrayList<>();
-        letters.add(new Letter(kind, latest, key, last, first, row));
+        letters.add(letter);
         tree.root = Tree.give(tree.root, letters, 0);
         tree.partRoot();
-        return map.act(letters.get(0));
+        return map.act(letter);
     }
 
     /** THE TAPE becomes the row; NONE if there is none. */
@@ -431,7 +432,7 @@ public final class LetterTree {
 
     /** Behind freePlaces(), which tells the disk what is TAKEN: whether no FALL came. */
     private boolean writeAll() {
-        if (!store.writePages(tree.root, 0)) {
+        if (!Disk.writePages(store, tree.root, 0)) {
             goDown();
             return false;
         }
@@ -649,8 +650,9 @@ public final class LetterTree {
             return kids.isEmpty();
         }
 
+        /** How many ENTRIES or KIDS: it has none of the others. */
         int width() {
-            return isLeaf() ? entries.list.size() : kids.size();
+            return entries.list.size() + kids.size();
         }
 
         boolean isTooBig() {
@@ -671,14 +673,11 @@ public final class LetterTree {
         }
 
         private void copyInto(Page other, int begin, int end) {
-            if (isLeaf()) {
-                for (int i = begin; i < end && i < entries.list.size(); i++) {
-                    other.entries.list.add(entries.list.get(i));
-                }
-            } else {
-                for (int i = begin; i < end && i < kids.size(); i++) {
-                    other.kids.add(kids.get(i));
-                }
+            for (int i = begin; i < end && i < entries.list.size(); i++) {
+                other.entries.list.add(entries.list.get(i));
+            }
+            for (int i = begin; i < end && i < kids.size(); i++) {
+                other.kids.add(kids.get(i));
             }
         }
 
@@ -879,7 +878,14 @@ public final class LetterTree {
             }
             int at = 0;
             for (int i = 0; i < MOST_TURNS && at < page.kids.size() && !page.isTooBig(); i++) {
-                int sunk = settleKid(page, at, depth);
+                Page kid = page.kids.get(at);
+                int sunk = 0;
+                if (lettersIn(kid, 0) > 0) {
+                    kid = kid.opened();
+                    page.kids.set(at, kid);
+                    sunk = settleBelow(kid, depth + 1);
+                    page.partKid(at);
+                }
                 sinks += sunk;
                 // The parts of a KID that was PARTED lie at its place and may have LETTERS still.
                 if (sunk == 0) {
@@ -887,17 +893,6 @@ public final class LetterTree {
                 }
             }
             return sinks;
-        }
-
-        private static int settleKid(Page page, int at, int depth) {
-            if (at >= page.kids.size() || lettersIn(page.kids.get(at), 0) == 0) {
-                return 0;
-            }
-            Page kid = page.kids.get(at).opened();
-            page.kids.set(at, kid);
-            int sunk = settleBelow(kid, depth + 1);
-            page.partKid(at);
-            return sunk;
         }
 
         int levels() {
@@ -1039,12 +1034,12 @@ public final class LetterTree {
             Arrays.fill(taken, (byte) 0);
             takenPlaces = 0;
             lowest = 0;
-            markPages(root, 0);
+            markPages(this, root, 0);
             markPictures(pictures);
             for (int h = 0; h < heads.length; h++) {
                 Head head = heads[h];
                 if (head != null) {
-                    markPages(head.root, 0);
+                    markPages(this, head.root, 0);
                     markPictures(head.pictures);
                 }
             }
@@ -1052,35 +1047,35 @@ public final class LetterTree {
 
         private void markPictures(ArrayList<Picture> pictures) {
             for (int i = 0; i < pictures.size(); i++) {
-                markPages(pictures.get(i).root, 0);
+                markPages(this, pictures.get(i).root, 0);
             }
         }
 
-        private void markPages(Page page, int depth) {
+        private static void markPages(Disk disk, Page page, int depth) {
             if (page.place >= 0 && page.place < PLACES) {
                 // Who has a PAGE has all below it: they were marked with it.
-                if (taken[page.place] != 0) {
+                if (disk.taken[page.place] != 0) {
                     return;
                 }
-                taken[page.place] = 1;
-                takenPlaces++;
+                disk.taken[page.place] = 1;
+                disk.takenPlaces++;
             }
             for (int i = 0; i < page.kids.size() && depth < MOST_DEPTH; i++) {
-                markPages(page.kids.get(i), depth + 1);
+                markPages(disk, page.kids.get(i), depth + 1);
             }
         }
 
         /** Writes what is CHANGED, KIDS ahead of their PAGE: whether no FALL came. */
-        private boolean writePages(Page page, int depth) {
+        private static boolean writePages(Disk disk, Page page, int depth) {
             if (page.place != NONE) {
                 return true;
             }
             for (int i = 0; i < page.kids.size() && depth < MOST_DEPTH; i++) {
-                if (!writePages(page.kids.get(i), depth + 1)) {
+                if (!writePages(disk, page.kids.get(i), depth + 1)) {
                     return false;
                 }
             }
-            return writePage(page);
+            return disk.writePage(page);
         }
 
         private boolean writePage(Page page) {
