@@ -16,6 +16,9 @@ public final class RandomRunsTest {
         for (int seed = 0; seed < runs && !test.checks.anyWrong(); seed++) {
             test.oneRun(seed);
         }
+        for (int seed = 0; seed < runs / 4 && !test.checks.anyWrong(); seed++) {
+            test.oneEvenRun(seed);
+        }
         for (int seed = 0; seed < runs / 60 && !test.checks.anyWrong(); seed++) {
             test.oneRunOnAFullDisk(seed);
         }
@@ -75,6 +78,56 @@ public final class RandomRunsTest {
                 break;
             default:
                 diskCall();
+        }
+    }
+
+    /** All LEAVES grow alike, so that many become too big at once, and their PAGES with them. */
+    private void oneEvenRun(int seed) {
+        begin(seed);
+        keys = 1 << 16;
+        int strays = dice.nextInt(4);
+        int others = dice.nextInt(3);
+        int calls = 80 + dice.nextInt(CALLS - 80);
+        for (int call = 0; call < calls && !checks.anyWrong(); call++) {
+            run = "seed " + seed + ", evenly, call " + call + ": ";
+            if (dice.nextInt(40) < others) {
+                evenRunCall();
+            } else {
+                long key = dice.nextInt(12) < strays ? key() : Integer.reverse(call) >>> 16;
+                due("put(" + key + ")", tree.put(key), plain.put(key));
+            }
+        }
+        run = "seed " + seed + ", evenly, at the end: ";
+        allPages();
+        due("settle()", tree.settle(), plain.settle());
+        allPages();
+    }
+
+    private void evenRunCall() {
+        switch (dice.nextInt(6)) {
+            case 0:
+                due("settle()", tree.settle(), plain.settle());
+                break;
+            case 1:
+                due("sync()", tree.sync(), plain.sync());
+                break;
+            case 2:
+                long key = key();
+                long last = key + (1 << dice.nextInt(16));
+                due("sweep(" + key + ", " + last + ")", tree.sweep(key, last), plain.sweep(key, last));
+                break;
+            default:
+                due("sink()", tree.sink(), plain.sink());
+        }
+    }
+
+    private void allPages() {
+        int pages = plain.pages();
+        due("pages()", tree.pages(), pages);
+        for (int i = 0; i < pages; i++) {
+            for (int what = 0; what <= 3; what++) {
+                due("page(" + i + ", " + what + ")", tree.page(i, what), plain.page(i, what));
+            }
         }
     }
 

@@ -1,9 +1,19 @@
+import java.util.ArrayList;
+import java.util.List;
+
 /** Section 2 of the terms and promises 16 to 24, sentence by sentence, at their edges. */
 public final class TreeEdgesTest {
     private static final Checks CHECKS = new Checks();
     private static final int NONE = LetterTree.NONE;
     private static final long LEAST = Long.MIN_VALUE, MOST = Long.MAX_VALUE;
     private static final int[] FAR = {Integer.MIN_VALUE, -2, -1, 1000, Integer.MAX_VALUE};
+    // KEYS that fill all LEAVES evenly, so that many of them become too big at once.
+    private static final int[] TALL = {
+        0, 45, 58, 63, 14, 55, 39, 72, 8, 71, 34, 67, 22, 60, 26, 75, 4, 49, 29, 65, 18, 56, 41, 74,
+        12, 59, 36, 69, 16, 61, 44, 77, 2, 48, 28, 64, 15, 11, 53, 35, 68, 24, 43, 42, 76, 7, 51, 31,
+        66, 20, 57, 38, 32, 25, 62, 46, 52, 1, 47, 27, 21, 10, 5, 23, 6, 50, 30, 19, 13, 54, 37, 70,
+        33, 3, 9, 17, 40, 73,
+    };
 
     public static void main(String[] args) {
         atFirstOneLeaf();
@@ -18,6 +28,7 @@ public final class TreeEdgesTest {
         sinkWithoutLetters();
         settleCountsItsSinks();
         settleTakesTheFirstByNumber();
+        settleTakesPartsByNumber();
         pagesAreNumbered();
         pagesOnAWay();
         pageTells();
@@ -277,6 +288,40 @@ public final class TreeEdgesTest {
         drops(x, 105, 3);
         // The root twice; the inner page has 9 then and SINKS by itself once, then twice more.
         CHECKS.due("settle", x.settle(), 2 + 2 + 1);
+    }
+
+    /** The ENTRIES of each LEAF; around them, in brackets, each INNER PAGE, and +n LETTERS. */
+    private static String shape(LetterTree x, int[] i) {
+        int page = i[0];
+        i[0]++;
+        if (x.page(page, 0) == 0) {
+            return String.valueOf(x.page(page, 1));
+        }
+        List<String> kids = new ArrayList<>();
+        for (int k = 0; k < x.page(page, 1); k++) {
+            kids.add(shape(x, i));
+        }
+        int letters = x.page(page, 2);
+        return "(" + String.join(" ", kids) + ")" + (letters > 0 ? "+" + letters : "");
+    }
+
+    /**
+     * "the first one, by number, SINKS (one that is too big then is PARTED, and so on up)": of the
+     * parts of the first KID, which have LETTERS still, the first one goes on. If the second one
+     * did, it would be PARTED ahead of the first one, and the root of 6 KIDS then into 4 and 3.
+     */
+    private static void settleTakesPartsByNumber() {
+        LetterTree x = new LetterTree();
+        for (int key : TALL) {
+            x.put(key);
+        }
+        String before = shape(x, new int[1]);
+        CHECKS.holds("as grown: " + before,
+                before.equals("((6 5 6 5 5)+5 (5 5 4)+7 (4 3 5 4)+4)+5"));
+        CHECKS.due("settle", x.settle(), 12);
+        String after = shape(x, new int[1]);
+        CHECKS.holds("settled: " + after, after.equals(
+                "(((4 3 4) (3 4 3) (5 4 4)) ((4 3 4) (3 4 3) (5 4 3) (4 3 4)))"));
     }
 
     /** "PAGES are numbered from 0 on: a PAGE, then all of its first KID's, and so on." */
